@@ -1295,29 +1295,18 @@ public final class SnowSentries {
                 stop = start + 1;
                 return true;
             }
-            if (isAmong(bytes[start], 'a', 'z')) {
-                kind = NAME;
-                stop = runEnd('a', 'z');
-                return true;
+            boolean name = isAmong(bytes[start], 'a', 'z');
+            char least = name ? 'a' : '0';
+            char most = name ? 'z' : '9';
+            while (stop < length && bytes[stop] >= least && bytes[stop] <= most) {
+                stop++;
             }
-            kind = NUMBER;
-            stop = runEnd('0', '9');
-            if (!isAmong(stop - start, 1, MOST_FIGURES)) {
-                return refuse(NO_TOKEN, start);
-            }
+            kind = name ? NAME : NUMBER;
             value = 0;
-            for (int k = start; k < stop; k++) {
+            for (int k = start; k < stop && !name; k++) {
                 value = 10 * value + bytes[k] - '0';
             }
-            return true;
-        }
-
-        private int runEnd(char least, char most) {
-            int at = start;
-            while (at < length && isAmong(bytes[at], least, most)) {
-                at++;
-            }
-            return at;
+            return name || isAmong(stop - start, 1, MOST_FIGURES) || refuse(NO_TOKEN, start);
         }
     }
 

@@ -49,6 +49,10 @@ public final class HoldingTest {
         check.due("side", x.need(2, 0, 12), BAD);
         check.due("furlong", x.need(0, 4, 12), BAD);
         check.due("hour 13", x.need(0, 0, 13), BAD);
+        x.treaty(0, 9);
+        check.due("99 is enough", x.need(0, 0, 10), 92);
+        x.treaty(0, 10);
+        check.due("100 would be enough", x.need(0, 0, 10), NONE);
         x.treaty(0, 99);
         check.due("treaty 99, now", x.need(0, 0, 0), 92);
         check.due("treaty 99, till 1", x.need(0, 0, 1), NONE);

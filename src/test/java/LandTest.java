@@ -220,6 +220,10 @@ public final class LandTest {
         check.due("side 2", x.mend(2, 0, 0), BAD);
         check.due("furlong 5", x.mend(0, 5, 0), BAD);
         check.due("all", x.all(), 90 + 32 + 97);
+        SnowSentries y = Check.told("snow 0 9;man west 0 plain 1 1 30 0;");
+        check.due("all that lies there", y.mend(0, 0, 9), 39);
+        check.due("nothing is left", y.furlong(0, 0), 0);
+        check.due("one of nothing", y.mend(0, 0, 1), STATE);
     }
 
     private static void carrying() {

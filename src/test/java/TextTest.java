@@ -289,5 +289,30 @@ public final class TextTest {
         check.due("all", x.all(), 0);
         check.due("image 0 is gone", x.back(0), SnowSentries.STATE);
         check.due("image 1 is gone", x.back(1), SnowSentries.STATE);
+        nothingComesBack();
+    }
+
+    /** Of what earlier texts told nothing is left, however many there were. */
+    private static void nothingComesBack() {
+        SnowSentries x = new SnowSentries();
+        for (int n = 0; n < 6; n++) {
+            boolean full = n % 3 == 0;
+            Check.write(x, full ? "furlongs 7;sun 5;frost 6;treaty 2 3 1;snow 1 30;man west 1 plain 1 2 30 1;brazier 0 1 0 0;house 1 0 west;" : "");
+            check.due("lines " + n, x.land(), full ? 8 : 0);
+            int[] rules = {full ? 7 : 5, 0, full ? 2 : 1, full ? 3 : 0, full ? 1 : 0, 3};
+            for (int what = 0; what < 6; what++) {
+                check.due("rule " + what + " of text " + n, x.rule(what), rules[what]);
+            }
+            check.due("sun of text " + n, x.hour(0, 0), full ? 5 : 0);
+            check.due("frost of text " + n, x.hour(0, 1), full ? 6 : 0);
+            check.due("all of text " + n, x.all(), full ? 63 : 0);
+            for (int what = 0; what < 3; what++) {
+                check.due("count " + what + " of text " + n, x.count(what), full ? 1 : 0);
+            }
+            x.go(3);
+            x.chance(1);
+            x.shine(7, 7);
+            x.light(0, 3, 0, 0);
+        }
     }
 }
