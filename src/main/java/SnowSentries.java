@@ -1072,10 +1072,8 @@ public final class SnowSentries {
             if (!readToken()) {
                 return false;
             }
-            if (kind == SEMICOLON) {
-                return true;
-            }
-            return isNumber(0, most) && refuse(TOO_MANY, start);
+            // A 13th number is of no HOUR that there is: it has no bounds to be out of.
+            return kind == NUMBER ? refuse(TOO_MANY, start) : isSemicolon();
         }
 
         private boolean readTreaty(Law law) {

@@ -293,11 +293,11 @@ final class Model {
                     row[0] = nextNumber(0, 9);
                     int n = 1;
                     for (next(); !token.equals(";"); next()) {
-                        int v = number(0, 9);
                         if (n == 12) {
+                            number(0, 999);
                             throw new Refusal(5, tokenAt);
                         }
-                        row[n++] = v;
+                        row[n++] = number(0, 9);
                     }
                     lines[0]++;
                     continue;

@@ -155,7 +155,7 @@ public final class ModelTest {
 
     private static String faulty(String text, Random chance) {
         int at = chance.nextInt(text.length());
-        switch (chance.nextInt(8)) {
+        switch (chance.nextInt(10)) {
             case 0: return text.substring(0, at);
             case 1: return text.substring(0, at) + text.substring(at + 1);
             case 2: return text.substring(0, at) + (char) chance.nextInt(256) + text.substring(at + 1);
@@ -166,8 +166,21 @@ public final class ModelTest {
                 String[] lines = text.split(";");
                 return lines[chance.nextInt(lines.length)] + ";" + text;
             }
+            case 7: return hours(chance) + text.replaceAll("(sun|frost)[ 0-9]*;", "");
+            case 8: return "brazier 0 9 1 2;".repeat(4 + chance.nextInt(4)) + "house 0 1 west;".repeat(5 + chance.nextInt(5)) + text;
             default: return text.replaceFirst(" ([0-9]+;)", " 1 2 3 4 5 6 7 8 9 0 1 2 $1");
         }
+    }
+
+    /** A row of about as many HOURS as there may be, one of which may be out of its bounds. */
+    private static String hours(Random chance) {
+        int size = 11 + chance.nextInt(4);
+        int odd = chance.nextInt(size + 4);
+        StringBuilder line = new StringBuilder(chance.nextBoolean() ? "sun" : "frost");
+        for (int h = 0; h < size; h++) {
+            line.append(' ').append(h == odd || h == 12 ? chance.nextInt(1200) : chance.nextInt(10));
+        }
+        return line.append(';').toString();
     }
 
     /** Mostly numbers that are as told, at times others. */

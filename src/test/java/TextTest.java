@@ -203,8 +203,13 @@ public final class TextTest {
         refused("sun 1 1 1 1 1 1 1 1 1 1 1 1 1;", 5, 28);
         refused("frost 1 1 1 1 1 1 1 1 1 1 1 1 1;", 5, 30);
         refused("sun 1 1 1 1 1 1 1 1 1 1 1 1 x;", 2, 28);
-        // Of two FAULTS of one TOKEN the lesser number is told.
-        refused("sun 1 1 1 1 1 1 1 1 1 1 1 1 10;", 3, 28);
+        refused("sun 1 1 1 1 1 1 1 1 1 1 1 1", 2, 27);
+        refused("sun 1 1 1 1 1 1 1 1 1 1 1 10 1;", 3, 26);
+        // The 13th HOUR is that whatever its number, but it must be a TOKEN.
+        refused("sun 1 1 1 1 1 1 1 1 1 1 1 1 10;", 5, 28);
+        refused("frost 1 1 1 1 1 1 1 1 1 1 1 1 999", 5, 30);
+        refused("frost 1 1 1 1 1 1 1 1 1 1 1 1 1234;", 1, 30);
+        refused("sun 1 1 1 1 1 1 1 1 1 1  5 6 72;", 5, 29);
         String fires = "brazier 0 1 0 0;".repeat(6);
         taken(fires, 6);
         refused(fires + "brazier", 5, 96);
