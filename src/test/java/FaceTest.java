@@ -128,7 +128,7 @@ public final class FaceTest {
         SnowSentries x = Check.told("furlongs 10;sun 1 2 3 4 5 6 7 8 9;treaty 3 0 0;snow 0 99;man west 0 plain 9 9 9 1;man east 9 child 9 9 9 1;brazier 4 20 0 11;");
         askAll(x);
         long before = counter.getThreadAllocatedBytes(Thread.currentThread().getId());
-        for (int n = 0; n < 20; n++) {
+        for (int n = 0; n < 15; n++) {
             askAll(x);
         }
         long made = counter.getThreadAllocatedBytes(Thread.currentThread().getId()) - before;

@@ -7,7 +7,8 @@ import java.util.Random;
 
 /** All promises: runs of calls by chance (the same ones each time), each answer beside that of the slow Model. */
 public final class ModelTest {
-    private static final int CALLS = 500;
+    /** A text and what is felt may come on top: 512 calls are the most that an object is made for. */
+    private static final int CALLS = 430;
     private static final List<String> DEAR = List.of("lead", "odds", "crews", "need", "gap", "holds", "spies");
     private static final String[] NAMES = {"furlongs", "sun", "frost", "treaty", "snow", "man", "brazier", "house", "west", "east",
         "plain", "iced", "shaded", "packed", "child", "bare", "x"};
